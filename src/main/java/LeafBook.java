@@ -239,7 +239,7 @@ public final class LeafBook {
         }
     }
 
-    // ---- whether words are as they should be: true of any words at all, so poke can do no harm
+    // ---- whether words are as they should be: asked anew at each call and trusting no word, as poke may alter any
 
     private static long sumOf(long[] words, int from, int many) {
         long s = 0L;

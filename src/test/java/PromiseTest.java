@@ -287,6 +287,10 @@ public final class PromiseTest {
         LeafBook closed = shut(16, 3);
         fails(closed, "put, closed", STATE, () -> closed.put(3, 1));
         fails(closed, "put of a wrong key, closed", STATE, () -> closed.put(-1, 1));
+        LeafBook whole = with(16, 3);
+        whole.crash(36);
+        fails(whole, "put, closed with all words written", STATE, () -> whole.put(4, 1));
+        fails(whole, "drop, closed with all words written", STATE, () -> whole.drop(3));
     }
 
     private static void putWithoutRoom() {
@@ -358,6 +362,14 @@ public final class PromiseTest {
         due("the last of a leaf", book.drop(80), 16);
         rootIs(book, 0, rootOf(16, 8, was[2], was[4]));
         due("words of that", book.crash(100), 20);
+        book.reopen();
+        // Roots are used again: what an older version had behind the leaves must not stay.
+        for (int key : new int[] {10, 20, 30, 40, 90, 100, 110}) {
+            book.drop(key);
+        }
+        book.put(120, 1);
+        rootIs(book, 0, rootOf(24, 1, book.rootAt(0, 2)));
+        due("one leaf", book.count(24, 1), 1);
     }
 
     private static void dropWrong() {
@@ -869,8 +881,8 @@ public final class PromiseTest {
         due("a root", book.badAt(), 103);
         book.pokeRoot(0, 19, 1);
         due("a root whose words are all 0", book.badAt(), 103);
-        book.pokeRoot(5, 19, 1);
-        due("another such", book.badAt(), 103);
+        book.pokeRoot(0, 19, 2);
+        due("such a root whose word 19 is not its SUM", book.badAt(), 103);
         book.pokeRoot(2, 18, 1);
         due("the first of two roots", book.badAt(), 102);
         book.poke(2, 0, 2);
