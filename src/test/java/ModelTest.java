@@ -12,13 +12,8 @@ import java.util.stream.Collectors;
 import java.util.stream.IntStream;
 
 /** Runs of calls drawn from fixed seeds, on a LeafBook and on a plain model of the document that shares no code. */
-public final class ModelTest {
-    private static final int RUNS = 600;
-    private static final int CALLS = 512;
-
-    private interface Call {
-        Object answer();
-    }
+public final class ModelTest extends Check {
+    private static final int RUNS = 2000;
 
     /** The document again, with maps and whole copies instead of drafts and saved words. */
     private static final class Model {
@@ -245,7 +240,7 @@ public final class ModelTest {
             }
             rows[row][i] ^= mask;
             altered = true;
-            return "done";
+            return "poked";
         }
 
         int badAt() {
@@ -281,7 +276,7 @@ public final class ModelTest {
 
     private final Random random;
     private final Model model;
-    private final LeafBook book;
+    private final Book book;
     private final int keyRange;
     private final int pokes;
     private final int crashes;
@@ -294,7 +289,7 @@ public final class ModelTest {
         random = new Random(seed);
         int size = random.nextInt(4) == 0 ? random.nextInt(80) - 5 : random.nextBoolean() ? 8 + random.nextInt(8) : 64;
         model = new Model(size);
-        book = new LeafBook(size);
+        book = new Book(size);
         keyRange = new int[] {6, 30, 200, 1000001}[random.nextInt(4)];
         pokes = new int[] {0, 3, 15}[random.nextInt(3)];
         crashes = new int[] {0, 2, 10}[random.nextInt(3)];
@@ -302,19 +297,14 @@ public final class ModelTest {
         told.add("new LeafBook(" + size + ")");
     }
 
-    private static Object result(Call call) {
-        try {
-            return call.answer();
-        } catch (RuntimeException e) {
-            return e.getClass().getName();
-        }
-    }
-
     private void ask(String name, String arguments, Call ofBook, Call ofModel) {
-        Object got = result(ofBook);
-        Object want = result(ofModel);
+        if (book.calls() == Book.MOST_CALLS) {
+            return;
+        }
+        Object got = answer(ofBook);
+        Object want = answer(ofModel);
         told.add(name + "(" + arguments + ") answered " + got + ", due is " + want);
-        SEEN.merge(name + (want instanceof String && ((String) want).startsWith("java") ? " " + want : ""), 1, Integer::sum);
+        SEEN.merge(name + (want instanceof Class ? " " + want : ""), 1, Integer::sum);
         wrong |= !Objects.equals(got, want);
     }
 
@@ -347,17 +337,13 @@ public final class ModelTest {
     }
 
     private void poke(int page, int i, long mask) {
-        ask("poke", page + ", " + i + ", " + mask, () -> {
-            book.poke(page, i, mask);
-            return "done";
-        }, () -> model.alter(model.pages, page, i, mask));
+        ask("poke", page + ", " + i + ", " + mask, () -> book.poke(page, i, mask),
+            () -> model.alter(model.pages, page, i, mask));
     }
 
     private void pokeRoot(int root, int i, long mask) {
-        ask("pokeRoot", root + ", " + i + ", " + mask, () -> {
-            book.pokeRoot(root, i, mask);
-            return "done";
-        }, () -> model.alter(model.roots, root, i, mask));
+        ask("pokeRoot", root + ", " + i + ", " + mask, () -> book.pokeRoot(root, i, mask),
+            () -> model.alter(model.roots, root, i, mask));
     }
 
     /** Half of the pokes are taken back, and some get the sum that makes them look as if they had been written. */
@@ -455,26 +441,29 @@ public final class ModelTest {
     }
 
     private void compareWords() {
-        for (int p = 0; p < model.pages.length; p++) {
-            for (int i = 0; i < 16; i++) {
-                wrong |= book.wordAt(p, i) != model.pages[p][i];
-            }
+        List<Long> words = new ArrayList<>();
+        for (long[] page : model.pages) {
+            Arrays.stream(page).forEach(words::add);
         }
-        for (int r = 0; r < 8; r++) {
-            for (int i = 0; i < 20; i++) {
-                wrong |= book.rootAt(r, i) != model.roots[r][i];
-            }
+        for (long[] root : model.roots) {
+            Arrays.stream(root).forEach(words::add);
         }
+        String got = Words.text(book.words());
+        told.add("the words are " + got + ", due is " + words);
+        wrong |= !got.equals(words.toString());
     }
 
-    /** Whether all of the run was as due; if not, the run is told up to the first call that was not. */
+    /** Runs of all lengths, so that words are looked at early and late; some use up all calls, with none left to look. */
     private boolean run(long seed) {
-        while (told.size() <= CALLS && !wrong) {
+        int length = random.nextInt(4) == 0 ? Book.MOST_CALLS : 1 + random.nextInt(450);
+        while (book.calls() < length && !wrong) {
             step();
+        }
+        if (!wrong && book.calls() < Book.MOST_CALLS) {
             compareWords();
         }
         if (wrong) {
-            System.out.println("run of seed " + seed + " (the last answer, or a word behind it, is not as due):");
+            System.out.println("run of seed " + seed + " (the last row is not as due):");
             told.subList(Math.max(0, told.size() - 12), told.size()).forEach(System.out::println);
         }
         return !wrong;
