@@ -11,6 +11,17 @@ public final class BoundaryTest extends Check {
         run(BoundaryTest.class);
     }
 
+    // ---- What it is
+
+    @Says("An object is used for at most 512 calls after it has been made: the 512th is as promised")
+    static void theLastCall() {
+        Book book = new Book(9);
+        for (int value = 1; value < Book.MOST_CALLS; value++) {
+            due("put " + value, book.put(5, value), value);
+        }
+        due("find", book.find(Book.MOST_CALLS - 1, 5), Book.MOST_CALLS - 1);
+    }
+
     // ---- Promise 1
 
     @Says("1: the nearest of 8 .. 64: too small")
@@ -341,6 +352,15 @@ public final class BoundaryTest extends Check {
             due("has " + (key - 1), book.has(8, key - 1), false);
             due("has " + (key + 1), book.has(8, key + 1), false);
         }
+    }
+
+    @Says("5: whether a version has a key: the words behind the ENTRIES, which are 0, are no key 0")
+    static void hasNoKeyZero() {
+        Book book = Book.of(16, 10, 20, 30, 40, 50, 60, 70, 80);
+        for (int version = 1; version <= 8; version++) {
+            due("has 0 in " + version, book.has(version, 0), false);
+        }
+        due("drop 0", book.drop(0), 0);
     }
 
     @Says("5: whether a version has a key: an empty version")

@@ -528,6 +528,19 @@ public final class TermsTest extends Check {
         rootIs(book, 3, Words.root(3, 3, 2));
     }
 
+    @Says("AN ACT makes the version NEWEST + 1 from NEWEST: above 1000000000, which is never OPENED")
+    static void actAboveWhatIsOpened() {
+        Book book = Book.of(16, 5);
+        book.setRoot(0, Words.root(1000000000L, 1, 0));
+        due("reopen", book.reopen(), 1000000000);
+        due("put", book.put(6, 60), 1000000001);
+        due("version", book.version(), 1000000001);
+        due("it is KEPT", book.keys(1000000001), List.of(5, 6));
+        rootIs(book, 1, Words.root(1000000001L, 2, 1));
+        due("reopen then", book.reopen(), 1000000000);
+        due("keys", book.keys(1000000000), List.of(5));
+    }
+
     @Says("PUT: a new leaf, if there are no leaves")
     static void putWithoutLeaves() {
         Book book = new Book(8);
