@@ -118,6 +118,15 @@ public final class BoundaryTest extends Check {
         refused(other, "put, another version", STATE, () -> other.put(7, 7));
     }
 
+    @Says("2: IllegalStateException: NEWEST is not KEPT: the book is empty, and its root is altered")
+    static void putOnAnAlteredEmptyRoot() {
+        Book book = new Book(8);
+        book.pokeRoot(0, 19, 1);
+        refused(book, "put", STATE, () -> book.put(5, 5));
+        book.reopen();
+        due("put, root 0 made anew", book.put(5, 5), 1);
+    }
+
     @Says("2: CLOSED, or NEWEST is not KEPT (both first): before what is said of the key")
     static void putStateBeforeKey() {
         for (int key : NO_KEYS) {
@@ -270,6 +279,9 @@ public final class BoundaryTest extends Check {
         root.pokeRoot(2, 19, 1);
         refused(root, "drop, root altered", STATE, () -> root.drop(5));
         refused(root, "drop of none, root altered", STATE, () -> root.drop(7));
+        Book empty = new Book(8);
+        empty.pokeRoot(0, 19, 1);
+        refused(empty, "drop, empty, root altered", STATE, () -> empty.drop(5));
     }
 
     @Says("3: as put(): CLOSED, or NEWEST is not KEPT (both first): before what is said of the key")
