@@ -1,7 +1,7 @@
 import java.lang.annotation.Retention;
 import java.lang.annotation.RetentionPolicy;
 
-/** The sentence of the document that a test holds the class to. */
+/** The sentence, of the document or of README.md, that a test is for. */
 @Retention(RetentionPolicy.RUNTIME)
 @interface Says {
     String value();
